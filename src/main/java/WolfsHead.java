@@ -199,6 +199,9 @@ public final class WolfsHead {
             return OTHER;
         }
         Text script = texts[text];
+        if (script == null) {
+            return OTHER;
+        }
         for (int i = 0; i < script.clauses; i++) {
             if (!perform(script, i)) {
                 return i;
@@ -228,18 +231,20 @@ public final class WolfsHead {
             case Tape.PARDON:
                 return pardon(a, b) != NONE;
             case Tape.MONTH:
-                return passAsMany(a);
+                return passAll(a);
             default:
                 return true;
         }
     }
 
     /** Unlike by hand, a script's months pass as far as they can before they are refused. */
-    private boolean passAsMany(int n) {
+    private boolean passAll(int n) {
         for (int i = 0; i < n; i++) {
-            if (month(1) == NONE) {
+            taken.ahead(folk);
+            if (deeds.passMonth() == NONE) {
                 return false;
             }
+            taken.keep();
         }
         return true;
     }
@@ -705,11 +710,11 @@ public final class WolfsHead {
         }
 
         int forestOf(int land) {
-            return told(land) ? forests[land] : 0;
+            return land >= 0 && land < count && land < MAX_LANDS ? forests[land] : 0;
         }
 
         int near(int land) {
-            return told(land) ? roads[land] : 0;
+            return land >= 0 && land < count && land < MAX_LANDS ? roads[land] : 0;
         }
 
         int all() {
@@ -739,10 +744,11 @@ public final class WolfsHead {
         }
 
         int fewestHelpers() {
-            int best = all();
-            for (int set = 0; set <= all(); set++) {
+            int every = all();
+            int best = every;
+            for (int set = 0; set <= every; set++) {
                 boolean fewer = Integer.bitCount(set) < Integer.bitCount(best);
-                if (fewer && spread(set) == all()) {
+                if (fewer && spread(set) == every) {
                     best = set;
                 }
             }
@@ -753,11 +759,11 @@ public final class WolfsHead {
             if (!told(a) || !told(b) || a == b || joined(a, b)) {
                 return NONE;
             }
-            int best = all() & ~(1 << a) & ~(1 << b);
-            int free = best;
-            for (int set = 0; set <= all(); set++) {
+            int between = all() & ~(1 << a) & ~(1 << b);
+            int best = between;
+            for (int set = 0; set <= between; set++) {
                 boolean fewer = Integer.bitCount(set) < Integer.bitCount(best);
-                if (fewer && (set & ~free) == 0 && parts(set, a, b)) {
+                if (fewer && (set & ~between) == 0 && parts(set, a, b)) {
                     best = set;
                 }
             }
@@ -866,7 +872,8 @@ public final class WolfsHead {
         }
 
         int get(int person, int part) {
-            if (!told(person) || part < 0 || part >= PARTS) {
+            boolean there = person >= 0 && person < row[AT_COUNT] && person < MAX_PERSONS;
+            if (!there || part < 0 || part >= PARTS) {
                 return 0;
             }
             return row[AT_PERSONS + person * PARTS + part];
@@ -879,7 +886,7 @@ public final class WolfsHead {
         }
 
         int fearOf(int person) {
-            return told(person) ? fears[person] : 0;
+            return person >= 0 && person < row[AT_COUNT] && person < MAX_PERSONS ? fears[person] : 0;
         }
 
         /** Those that aren't dead in a land, but one (bits). */
@@ -1238,10 +1245,7 @@ public final class WolfsHead {
 
         static final int MAX_BYTES = 300;
         private static final int FED_AT_ONCE = 20;
-        private static final String WORDS =
-            "hungers finds price earns road person call move feed kill pardon "
-            + "land month who fear forest hunger out goods debts crowd to in by "
-            + "ones fears if then else end not and or ";
+        private static final String WORDS = "hungers finds price earns road person call move feed kill pardon land month who fear forest hunger out goods debts crowd to in by ones fears if then else end not and or ";
 
         int length = 0;
         int tokens = 0;
@@ -1493,9 +1497,12 @@ public final class WolfsHead {
                         stack[top] = kind != Tape.NUMBER && name < names.length ? names[name] : told;
                         top++;
                     }
-                } else if (takesOne(kind)) {
+                } else if (kind == Tape.FEARS) {
                     int last = Math.max(top - 1, 0);
-                    stack[last] = ofOne(kind, stack[last], folk);
+                    stack[last] = folk.fearOf(stack[last]);
+                } else if (kind == Tape.NEGATE || kind == Tape.ONES || kind == Tape.NOT) {
+                    int last = Math.max(top - 1, 0);
+                    stack[last] = ofOne(kind, stack[last]);
                 } else if (top >= 2) {
                     top--;
                     stack[top - 1] = ofTwo(kind, stack[top - 1], stack[top]);
@@ -1504,16 +1511,10 @@ public final class WolfsHead {
             return stack[0];
         }
 
-        private static boolean takesOne(int kind) {
-            return kind == Tape.NEGATE || kind == Tape.ONES || kind == Tape.FEARS || kind == Tape.NOT;
-        }
-
-        private static int ofOne(int kind, int value, Folk folk) {
+        private static int ofOne(int kind, int value) {
             switch (kind) {
                 case Tape.ONES:
                     return Integer.bitCount(Math.abs(value));
-                case Tape.FEARS:
-                    return folk.fearOf(value);
                 case Tape.NOT:
                     return value == 0 ? 1 : 0;
                 default:
@@ -1524,41 +1525,30 @@ public final class WolfsHead {
         private static int ofTwo(int kind, int a, int b) {
             switch (kind) {
                 case Tape.PLUS:
-                    return within(a + b);
+                    return Math.max(-LIMIT, Math.min(LIMIT, a + b));
                 case Tape.MINUS:
-                    return within(a - b);
+                    return Math.max(-LIMIT, Math.min(LIMIT, a - b));
                 case Tape.TIMES:
-                    return within((long) a * b);
+                    return (int) Math.max(-LIMIT, Math.min(LIMIT, (long) a * b));
                 case Tape.SLASH:
                     return b == 0 ? 0 : a / b;
                 case Tape.AND:
                     return a & b;
                 case Tape.OR:
                     return a | b;
-                default:
-                    return holds(kind, a, b) ? 1 : 0;
-            }
-        }
-
-        private static boolean holds(int kind, int a, int b) {
-            switch (kind) {
                 case Tape.BELOW:
-                    return a < b;
+                    return a < b ? 1 : 0;
                 case Tape.AT_MOST:
-                    return a <= b;
+                    return a <= b ? 1 : 0;
                 case Tape.ABOVE:
-                    return a > b;
+                    return a > b ? 1 : 0;
                 case Tape.AT_LEAST:
-                    return a >= b;
+                    return a >= b ? 1 : 0;
                 case Tape.SAME:
-                    return a == b;
+                    return a == b ? 1 : 0;
                 default:
-                    return a != b;
+                    return a != b ? 1 : 0;
             }
-        }
-
-        private static int within(long value) {
-            return (int) Math.max(-LIMIT, Math.min(LIMIT, value));
         }
     }
 
@@ -1587,6 +1577,9 @@ public final class WolfsHead {
         }
 
         boolean read(Text into) {
+            if (into == null) {
+                return false;
+            }
             text = into;
             text.empty();
             tape.split();
@@ -1911,10 +1904,6 @@ public final class WolfsHead {
             this.laws = laws;
         }
 
-        private int law(int which, int person) {
-            return laws.rule(realm.ruling, which, folk, person, folk.get(person, Folk.LAND));
-        }
-
         private boolean alive(int person) {
             return folk.told(person) && folk.get(person, Folk.HOW) != DEAD;
         }
@@ -1971,9 +1960,13 @@ public final class WolfsHead {
             }
             folk.set(person, Folk.HUNGER, 0);
             int calls = folk.get(by, Folk.CALLS);
-            if (!outlaw(by) && folk.drawByTen() < law(FINDS, person)) {
-                calls = Math.min(calls + 1, MAX_CALLS - 1);
-                folk.set(by, Folk.CALLS, calls);
+            if (!outlaw(by)) {
+                int land = folk.get(person, Folk.LAND);
+                int finds = laws.rule(realm.ruling, FINDS, folk, person, land);
+                if (folk.drawByTen() < finds) {
+                    calls = Math.min(calls + 1, MAX_CALLS - 1);
+                    folk.set(by, Folk.CALLS, calls);
+                }
             }
             folk.write(person, FED);
             return calls;
@@ -2002,7 +1995,8 @@ public final class WolfsHead {
             if (!outlaw(person) || !alive(by)) {
                 return NONE;
             }
-            int price = law(PRICE, person);
+            int land = folk.get(person, Folk.LAND);
+            int price = laws.rule(realm.ruling, PRICE, folk, person, land);
             return folk.get(by, Folk.GOODS) >= price ? price : NONE;
         }
 
@@ -2025,27 +2019,40 @@ public final class WolfsHead {
             int died = 0;
             for (int person = 0; person < folk.count(); person++) {
                 if (outlaw(person)) {
-                    died += hide(person);
+                    died += hide(person) ? 0 : 1;
                 } else if (alive(person)) {
-                    int goods = folk.get(person, Folk.GOODS) + law(EARNS, person);
-                    folk.set(person, Folk.GOODS, Math.min(goods, MAX_NUMBER));
+                    earn(person);
                 }
             }
             folk.nextMonth();
             return died;
         }
 
-        private int hide(int person) {
-            int hunger = Math.min(folk.get(person, Folk.HUNGER) + law(HUNGERS, person), MAX_HUNGER);
+        private void earn(int person) {
+            int land = folk.get(person, Folk.LAND);
+            int earns = laws.rule(realm.ruling, EARNS, folk, person, land);
+            folk.set(person, Folk.GOODS, Math.min(folk.get(person, Folk.GOODS) + earns, MAX_NUMBER));
+        }
+
+        /** Whether an outlaw lives through the month. */
+        private boolean hide(int person) {
+            int land = folk.get(person, Folk.LAND);
+            int hungers = laws.rule(realm.ruling, HUNGERS, folk, person, land);
+            int hunger = Math.min(folk.get(person, Folk.HUNGER) + hungers, MAX_HUNGER);
             folk.set(person, Folk.HUNGER, hunger);
-            boolean starved = hunger == MAX_HUNGER;
-            if (starved || folk.drawByTen() < law(FINDS, person)) {
+            if (hunger == MAX_HUNGER) {
                 folk.set(person, Folk.HOW, DEAD);
-                folk.write(person, starved ? STARVED : FOUND);
-                return 1;
+                folk.write(person, STARVED);
+                return false;
+            }
+            int finds = laws.rule(realm.ruling, FINDS, folk, person, land);
+            if (folk.drawByTen() < finds) {
+                folk.set(person, Folk.HOW, DEAD);
+                folk.write(person, FOUND);
+                return false;
             }
             folk.set(person, Folk.OUT, Math.min(folk.get(person, Folk.OUT) + 1, MAX_NUMBER));
-            return 0;
+            return true;
         }
     }
 

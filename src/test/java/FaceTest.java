@@ -1,0 +1,131 @@
+import java.lang.reflect.Field;
+import java.lang.reflect.Method;
+import java.lang.reflect.Modifier;
+import java.nio.file.Files;
+import java.nio.file.Path;
+import java.util.Arrays;
+import java.util.Random;
+import java.util.Set;
+import java.util.TreeSet;
+import java.util.regex.Matcher;
+import java.util.regex.Pattern;
+
+/** The public face, the rules of the language that a scan can see, and that no call ever throws. */
+public final class FaceTest {
+    private static final String[] FACE = {"int land(int)", "boolean road(int,int)", "int person(int,int,int,int)",
+        "int feed(int,int,int,int,int)", "int end(int)", "int text()", "int fault(int)", "boolean by(int)",
+        "int call(int,int)", "boolean move(int,int)", "int feeds(int,int)", "boolean kill(int,int)",
+        "int pardon(int,int)", "int month(int)", "int played(int)", "int reigns(int,int)", "int undo()",
+        "int of(int,int)", "int ofLand(int,int)", "int is(int)", "int book(int,int)",
+        "int foretold(int,int,boolean)", "int toPay(int,int)", "int surest(int,int,int)", "int steps(int,int)",
+        "int unheard(int,int)", "int crowd(int)", "int inCrowd(int,int,int)", "int helpers()", "int watch(int,int)",
+        "boolean borders(int)", "int toBorder(int)", "boolean reports(int)", "int unlike(int,int)",
+        "int heads(int)", "boolean has(boolean,int,int,int)", "int rests()", "int mixed(boolean)",
+        "int befell(int,int)", "int heirs(int)", "int feared()", "int wolves()", "int paid(int,int)", "int whose()",
+        "int image()", "int back()", "int about(int)"};
+
+    public static void main(String[] args) throws Exception {
+        face();
+        inside();
+        source();
+        wild();
+        Due.done();
+    }
+
+    private static String sign(Method m) {
+        StringBuilder b = new StringBuilder(m.getReturnType() + " " + m.getName() + "(");
+        for (Class<?> c : m.getParameterTypes()) {
+            b.append(b.charAt(b.length() - 1) == '(' ? "" : ",").append(c);
+        }
+        return b.append(")").toString();
+    }
+
+    private static void face() {
+        Set<String> open = new TreeSet<>();
+        Set<String> openNames = new TreeSet<>();
+        for (Method m : WolfsHead.class.getDeclaredMethods()) {
+            if (!Modifier.isPrivate(m.getModifiers())) {
+                open.add(sign(m));
+                openNames.add(m.getName());
+                Due.is(m + " is public", Modifier.isPublic(m.getModifiers()), true);
+            }
+        }
+        Set<String> due = new TreeSet<>(Arrays.asList(FACE));
+        Due.is("the face " + open, open.equals(due), true);
+        for (Method m : WolfsHead.class.getDeclaredMethods()) {
+            boolean hidden = Modifier.isPrivate(m.getModifiers());
+            Due.is(m + " bears no public name", hidden && openNames.contains(m.getName()), false);
+        }
+        for (Field f : WolfsHead.class.getDeclaredFields()) {
+            Due.is(f + " is private", Modifier.isPrivate(f.getModifiers()) || f.getName().equals("NONE"), true);
+        }
+        Due.is("final", Modifier.isFinal(WolfsHead.class.getModifiers()), true);
+        Due.is("one constructor", WolfsHead.class.getDeclaredConstructors().length, 1);
+    }
+
+    private static void inside() {
+        Class<?>[] classes = WolfsHead.class.getDeclaredClasses();
+        Due.is("at most twelve classes", classes.length < 12, true);
+        for (Class<?> c : classes) {
+            Due.is(c + " is static", Modifier.isStatic(c.getModifiers()), true);
+            int own = 0;
+            for (Field f : c.getDeclaredFields()) {
+                boolean still = Modifier.isStatic(f.getModifiers());
+                own += still ? 0 : 1;
+                Due.is(f + " is final", !still || Modifier.isFinal(f.getModifiers()), true);
+            }
+            Due.is(c + " has at most twenty fields", own <= 20, true);
+            for (Method m : c.getDeclaredMethods()) {
+                Due.is(m + " takes at most seven", m.getParameterCount() <= 7, true);
+            }
+        }
+    }
+
+    private static void source() throws Exception {
+        String text = Files.readString(Path.of("src/main/java/WolfsHead.java"));
+        String bare = text.replaceAll("(?s)/\\*.*?\\*/", "").replaceAll("//[^\n]*", "");
+        String never = "\\b(throw|throws|try|catch|finally|synchronized|assert|import|package|volatile|native"
+            + "|hashCode|toString|Exact)\\b|->|::|@|\\+=\\s*\"|\"\\s*\\+|\\+\\s*\"";
+        Matcher m = Pattern.compile(never).matcher(bare);
+        while (m.find()) {
+            Due.is("the source has " + m.group(), true, false);
+        }
+        for (char c : text.toCharArray()) {
+            Due.is("signs are plain", c == '\n' || c >= 32 && c < 127, true);
+        }
+        int from = -1;
+        String[] lines = text.split("\n");
+        for (int i = 0; i < lines.length; i++) {
+            if (lines[i].matches(" {4,8}[a-zA-Z].*\\) \\{")) {
+                from = i;
+            }
+            if (lines[i].matches(" {4,8}\\}") && from >= 0) {
+                Due.is("the method at line " + (from + 1) + " is short", i - from < 61, true);
+                from = -1;
+            }
+        }
+    }
+
+    /** Any arguments in any state: reflection hands on whatever is thrown, and the test fails by it. */
+    private static void wild() throws Exception {
+        Random draw = new Random(2026);
+        int[] odd = {Integer.MIN_VALUE, Integer.MAX_VALUE, -1, -2, -3, 255, 256, 9999, 10000, 300, 32, 31, 1 << 30};
+        Method[] all = Arrays.stream(WolfsHead.class.getDeclaredMethods())
+            .filter(m -> Modifier.isPublic(m.getModifiers())).sorted((a, b) -> sign(a).compareTo(sign(b)))
+            .toArray(Method[]::new);
+        for (int run = 0; run < 400; run++) {
+            WolfsHead x = new WolfsHead();
+            for (int i = 0; i < 512; i++) {
+                Method m = all[draw.nextInt(all.length)];
+                Object[] given = new Object[m.getParameterCount()];
+                for (int k = 0; k < given.length; k++) {
+                    boolean flag = m.getParameterTypes()[k] == boolean.class;
+                    int small = draw.nextInt(10) - 1;
+                    int number = draw.nextInt(6) == 0 ? odd[draw.nextInt(odd.length)] : small;
+                    given[k] = flag ? (Object) draw.nextBoolean() : (Object) number;
+                }
+                Due.is("an answer", m.invoke(x, given) != null, true);
+            }
+        }
+    }
+}

@@ -691,7 +691,6 @@ public final class WolfsHead {
                 return NONE;
             }
             forests[count] = forest;
-            roads[count] = 0;
             count++;
             return count - 1;
         }
@@ -773,7 +772,11 @@ public final class WolfsHead {
         private boolean parts(int set, int a, int b) {
             int reached = 1 << a;
             for (int n = 0; n < MAX_LANDS; n++) {
-                reached = spread(reached) & ~set;
+                int wider = spread(reached) & ~set;
+                if (wider == reached) {
+                    break;
+                }
+                reached = wider;
             }
             return (reached >> b & 1) == 0;
         }

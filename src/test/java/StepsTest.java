@@ -282,6 +282,7 @@ public final class StepsTest {
             x.month(60);
         }
         x.land(0);
+        x.land(0);
         x.person(0, 0, 0, 0);
         Due.is("P15 9960", x.is(0), 9960);
         Due.is("P15 beyond", x.month(40), -1);
@@ -292,12 +293,15 @@ public final class StepsTest {
         Due.is("P15 none can pass", x.month(1), -1);
         Due.is("P23 none can pass", x.foretold(9, 0, true), 390);
         Due.is("P17 nor in reigns", x.reigns(2, 1), 9999);
+        outlaw(x, 0);
+        Due.is("P24 none can pass", x.toPay(0, 0), -1);
+        Due.is("P23 none can pass", x.foretold(60, 0, false), 1);
         x.back();
         Due.is("P23 those that can", x.foretold(60, 0, true), 390);
         Due.text(x, "month 30;month 30;land 1;");
         Due.is("P16 the second can't", x.played(0), 1);
         Due.is("P16 those that can pass do", x.is(0), 9999);
-        Due.is("P16 it ended", x.about(0), 1);
+        Due.is("P16 it ended", x.about(0), 2);
         Due.is("P16 steps", x.about(4), 30);
         Due.is("P16 steps", x.undo(), 29);
         Due.is("P16 one taken back", x.is(0), 9998);

@@ -24,6 +24,19 @@ public final class TextsTest {
         Due.fault("Land 3;", 1, 0);
         Due.fault("landx 3;", 1, 0);
         Due.fault("lan 3;", 1, 0);
+        for (String letter : new String[] {"a", "z", "A", "Z", "m"}) {
+            Due.fault("land" + letter + " 3;", 1, 0);
+            Due.fault("land 3" + letter + ";", 1, 6);
+        }
+        for (String sign : new String[] {"@", "[", "`", "{", ":", "\r", "~", "_"}) {
+            Due.fault("land" + sign + " 3;", 1, 4);
+        }
+        Due.fault("land 0" + ";".repeat(294), 1, 7);
+        Due.fault(";".repeat(300), 1, 0);
+        Due.fault("finds " + "1+".repeat(146) + "1;", 0, -1);
+        Due.fault("finds " + "1".repeat(294), 2, 6);
+        Due.fault("finds " + "0".repeat(292) + "1;", 0, -1);
+        Due.fault("finds " + "1+".repeat(147), 1, 300);
         Due.fault("land 3.;", 1, 6);
         Due.fault("land 3;!", 1, 7);
         Due.fault("finds if 1<=2 then 1 else 2 end;", 0, -1);

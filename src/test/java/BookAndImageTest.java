@@ -183,6 +183,8 @@ public final class BookAndImageTest {
         x.unlike(0, 1);
         x.crowd(1);
         x.borders(2);
+        outlaw(x, 1);
+        x.month(1);
         x.paid(0, 100);
         x.has(true, 0, 0, 7);
         x.call(0, 0);
@@ -197,19 +199,20 @@ public final class BookAndImageTest {
         x.unlike(3, 4);
         x.crowd(-1);
         x.borders(5);
-        x.paid(1, 1);
+        x.paid(-1, 0);
+        x.paid(1, 120);
         x.has(true, 0, 0, 0);
         x.person(2, 9, 9, 9);
         x.reigns(77, 40);
         x.month(60);
         x.back();
-        int[] due = {2, 4, 2, 1, 3, 1, 3, 1, 1};
+        int[] due = {2, 4, 2, 1, 9, 1, 3, 1, 1};
         for (int what = 0; what < 9; what++) {
             Due.is("P47 about " + what, x.about(what), due[what]);
         }
-        Due.is("P47 X", x.is(1), 149);
-        Due.is("P47 book", x.book(-1, 0), 1);
-        Due.is("P47 goods", x.of(0, 2), 504);
+        Due.is("P47 X", x.is(1), 26355);
+        Due.is("P47 book", x.book(-1, 0), 2);
+        Due.is("P47 goods", x.of(0, 2), 506);
         Due.is("P47 earns", x.of(0, 11), 2);
         Due.is("P47 roads", x.ofLand(0, 1), 2);
         Due.is("P47 border", x.toBorder(0), 1);
@@ -224,7 +227,7 @@ public final class BookAndImageTest {
         Due.is("P47 a land anew has no roads", x.ofLand(2, 1), 0);
         Due.is("P47 a person anew", x.person(2, 1, 2, 3), 4);
         Due.is("P47 a person anew", x.of(4, 1), 1);
-        Due.is("P47 the step ahead of it", x.undo(), 2);
+        Due.is("P47 the step ahead of it", x.undo(), 8);
         Due.is("P47 as told anew", x.of(4, 2), 2);
     }
 }

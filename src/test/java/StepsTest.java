@@ -170,6 +170,10 @@ public final class StepsTest {
         outlaw(x, 3);
         Due.is("P13 by a pardoned one", x.kill(3, 1), true);
         Due.is("P13 as it was", x.of(1, 7), 2);
+        x.undo();
+        Due.is("P18 a killing", x.of(3, 7), 1);
+        Due.is("P18 a killing", x.befell(3, 5), 0);
+        Due.is("P18 its calls stay", x.befell(3, 1), 1);
     }
 
     private static void pardon() {
@@ -194,6 +198,11 @@ public final class StepsTest {
         }
         Due.is("P14 written down", x.befell(0, 6), 1);
         Due.is("P14 pardoned already", x.pardon(0, 3), -1);
+        x.undo();
+        Due.is("P18 a pardon", x.of(0, 7), 1);
+        Due.is("P18 a pardon", x.of(0, 6), 2);
+        Due.is("P18 a pardon", x.of(1, 2), 220);
+        Due.is("P14 again", x.pardon(0, 1), 140);
         rule(x, "price 80;");
         outlaw(x, 0);
         Due.is("P14 just enough", x.pardon(0, 1), 80);

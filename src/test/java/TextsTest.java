@@ -12,6 +12,7 @@ public final class TextsTest {
         sums();
         asks();
         limits();
+        afterFaults();
         Due.done();
     }
 
@@ -312,5 +313,21 @@ public final class TextsTest {
         law("earns 5;", 9, 3);
         law("earns 5;", 10, 100);
         law("price 5;", 11, 10);
+    }
+
+    /** What was read of a text with a fault leaves nothing behind. */
+    private static void afterFaults() {
+        WolfsHead x = new WolfsHead();
+        x.land(4);
+        x.person(0, 3, 0, 0);
+        for (int i = 0; i < 5; i++) {
+            Due.is("a fault", Due.text(x, "finds 1;" + "earns " + "1+".repeat(120) + ";"), -1);
+        }
+        Due.is("no fault", Due.text(x, "earns " + "1+".repeat(97) + "1;land 2;"), 0);
+        x.by(0);
+        Due.is("earns", x.of(0, 11), 98);
+        Due.is("finds without", x.of(0, 9), 3);
+        Due.is("its clauses", x.played(0), -1);
+        Due.is("its clauses", x.ofLand(1, 0), 2);
     }
 }

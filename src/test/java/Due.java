@@ -42,9 +42,9 @@ final class Due {
     /** A text with a fault, its number and its place. */
     static void fault(String text, int what, int place) {
         WolfsHead x = new WolfsHead();
-        is("text of [" + text + "]", text(x, text), what == 0 ? 0 : -1);
-        is("fault(0) of [" + text + "]", x.fault(0), what);
-        is("fault(1) of [" + text + "]", x.fault(1), what == 0 ? -1 : place);
+        is("P7 text of [" + text + "]", text(x, text), what == 0 ? 0 : -1);
+        is("P8 fault(0) of [" + text + "]", x.fault(0), what);
+        is("P8 fault(1) of [" + text + "]", x.fault(1), what == 0 ? -1 : place);
     }
 
     static void done() {

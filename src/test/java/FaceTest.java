@@ -28,6 +28,7 @@ public final class FaceTest {
         face();
         inside();
         source();
+        labels();
         wild();
         Due.done();
     }
@@ -103,6 +104,19 @@ public final class FaceTest {
                 Due.is("the method at line " + (from + 1) + " is short", i - from < 61, true);
                 from = -1;
             }
+        }
+    }
+
+    /** Each promise has a sentence in the tests that names it. */
+    private static void labels() throws Exception {
+        StringBuilder all = new StringBuilder();
+        try (var files = Files.list(Path.of("src/test/java"))) {
+            for (Path file : files.toArray(Path[]::new)) {
+                all.append(Files.readString(file));
+            }
+        }
+        for (int promise = 1; promise <= 48; promise++) {
+            Due.is("promise " + promise + " is tested", all.indexOf("new Says(" + promise + ", ") >= 0, true);
         }
     }
 

@@ -197,13 +197,13 @@ public final class TextsTest {
         x.person(1, 8, 77, 9);
         x.person(1, 5, 0, 0);
         x.month(2);
-        Due.is("text of " + sum, Due.text(x, "earns " + sum + ";"), 0);
+        Due.is("P7 text of " + sum, Due.text(x, "earns " + sum + ";"), 0);
         x.by(0);
         return x.of(1, 11);
     }
 
     private static void sum(String sum, int want) {
-        Due.is(sum, earns(sum), want);
+        Due.is("P19 " + sum, earns(sum), want);
     }
 
     private static void sums() {
@@ -290,9 +290,9 @@ public final class TextsTest {
         WolfsHead x = new WolfsHead();
         x.land(4);
         x.person(0, 3, 0, 0);
-        Due.is("text of " + law, Due.text(x, law), 0);
+        Due.is("P7 text of " + law, Due.text(x, law), 0);
         x.by(0);
-        Due.is(law, x.of(0, what), want);
+        Due.is("P19 " + law, x.of(0, what), want);
     }
 
     private static void limits() {
@@ -321,13 +321,13 @@ public final class TextsTest {
         x.land(4);
         x.person(0, 3, 0, 0);
         for (int i = 0; i < 5; i++) {
-            Due.is("a fault", Due.text(x, "finds 1;" + "earns " + "1+".repeat(120) + ";"), -1);
+            Due.is("P7 a fault", Due.text(x, "finds 1;" + "earns " + "1+".repeat(120) + ";"), -1);
         }
-        Due.is("no fault", Due.text(x, "earns " + "1+".repeat(97) + "1;land 2;"), 0);
+        Due.is("P7 no fault", Due.text(x, "earns " + "1+".repeat(97) + "1;land 2;"), 0);
         x.by(0);
-        Due.is("earns", x.of(0, 11), 98);
-        Due.is("finds without", x.of(0, 9), 3);
-        Due.is("its clauses", x.played(0), -1);
-        Due.is("its clauses", x.ofLand(1, 0), 2);
+        Due.is("P7 earns", x.of(0, 11), 98);
+        Due.is("P7 finds without", x.of(0, 9), 3);
+        Due.is("P7 its clauses", x.played(0), -1);
+        Due.is("P7 its clauses", x.ofLand(1, 0), 2);
     }
 }

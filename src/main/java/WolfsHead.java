@@ -1488,51 +1488,44 @@ public final class WolfsHead {
             for (int turn = 0; turn < MAX_CODE && at >= 0 && at < ends[law] && at < MAX_CODE; turn++) {
                 int kind = code[at] & 63;
                 int told = code[at] >> 6;
+                int name = kind - Tape.LAND;
+                int last = Math.max(top - 1, 0);
                 at++;
                 if (kind == Tape.ELSE) {
                     at = told;
                 } else if (kind == Tape.THEN) {
-                    top = Math.max(top - 1, 0);
-                    at = stack[top] == 0 ? told : at;
-                } else if (kind == Tape.NUMBER || (kind >= Tape.LAND && kind <= Tape.CROWD)) {
-                    int name = kind - Tape.LAND;
+                    top = last;
+                    at = stack[last] == 0 ? told : at;
+                } else if (kind == Tape.NUMBER || (name >= 0 && name < names.length)) {
                     if (top < stack.length) {
-                        stack[top] = kind != Tape.NUMBER && name < names.length ? names[name] : told;
+                        stack[top] = kind == Tape.NUMBER ? told : names[name];
                         top++;
                     }
                 } else if (kind == Tape.FEARS) {
-                    int last = Math.max(top - 1, 0);
                     stack[last] = folk.fearOf(stack[last]);
-                } else if (kind == Tape.NEGATE || kind == Tape.ONES || kind == Tape.NOT) {
-                    int last = Math.max(top - 1, 0);
-                    stack[last] = ofOne(kind, stack[last]);
+                } else if (kind == Tape.ONES) {
+                    stack[last] = Integer.bitCount(Math.abs(stack[last]));
+                } else if (kind == Tape.NOT) {
+                    stack[last] = 1 - stack[last];
+                } else if (kind == Tape.NEGATE) {
+                    stack[last] = -stack[last];
                 } else if (top >= 2) {
-                    top--;
-                    stack[top - 1] = ofTwo(kind, stack[top - 1], stack[top]);
+                    top = last;
+                    long joined = ofTwo(kind, stack[last - 1], stack[last]);
+                    stack[last - 1] = (int) Math.max(-LIMIT, Math.min(LIMIT, joined));
                 }
             }
             return stack[0];
         }
 
-        private static int ofOne(int kind, int value) {
-            switch (kind) {
-                case Tape.ONES:
-                    return Integer.bitCount(Math.abs(value));
-                case Tape.NOT:
-                    return value == 0 ? 1 : 0;
-                default:
-                    return -value;
-            }
-        }
-
-        private static int ofTwo(int kind, int a, int b) {
+        private static long ofTwo(int kind, long a, long b) {
             switch (kind) {
                 case Tape.PLUS:
-                    return Math.max(-LIMIT, Math.min(LIMIT, a + b));
+                    return a + b;
                 case Tape.MINUS:
-                    return Math.max(-LIMIT, Math.min(LIMIT, a - b));
+                    return a - b;
                 case Tape.TIMES:
-                    return (int) Math.max(-LIMIT, Math.min(LIMIT, (long) a * b));
+                    return a * b;
                 case Tape.SLASH:
                     return b == 0 ? 0 : a / b;
                 case Tape.AND:

